@@ -96,6 +96,14 @@ public final class PromisesTest {
         due("children", x.count(2), 2);
         due("tree of an empty text", x.tree(), 0);
         due("bare", x.count(0) + x.count(1) + x.count(2), 0);
+        // a tree told twice over, a faulty one between: nothing of an earlier text stays
+        Check.typed(x, "b0 1 0;b0 1 0;p0 1 1 1 1;c1 1;x");
+        due("a fault", x.tree(), -10 - 30);
+        x.clear();
+        Check.typed(x, "b3 1 0;");
+        due("one bough", x.tree(), 1);
+        due("just that", x.count(0) * 100 + x.count(1) * 10 + x.count(2), 100);
+        due("its height", x.bough(0, 0), 3);
     }
 
     private static void fault(String text, int place) {
@@ -341,14 +349,17 @@ public final class PromisesTest {
         due("bolted now", x.end(0, 0, 0), 3);
         due("was bolted", x.join(0, 0, 0), 3);
         due("was loose", x.join(0, 0, 0), 0);
-        due("known", x.now(5), 4);
+        due("the other end was roped", x.join(0, 1, 1), 2);
+        due("end 1 of plank 1 was bolted", x.join(1, 1, 2), 3);
+        due("end 0 of plank 2 was nailed", x.join(2, 0, 0), 1);
+        due("known", x.now(5), 7);
         due("kind 4", x.join(0, 0, 4), BAD);
         due("kind -1", x.join(0, 0, -1), BAD);
         due("end 2", x.join(0, 2, 0), BAD);
         due("end -1", x.join(0, -1, 0), BAD);
         due("plank 3", x.join(3, 0, 0), BAD);
         due("plank -1", x.join(-1, 0, 0), BAD);
-        due("known still", x.now(5), 4);
+        due("known still", x.now(5), 7);
     }
 
     private static void springs() {
@@ -448,6 +459,13 @@ public final class PromisesTest {
         // a BOUGH bounds it, cut upwards at END 0
         TreePlanks w = Check.planted("b0 2 0;b0 9 0;p0 1 9 1 1;p1 0 9 1 1;c5 1;");
         due("end 0 has the greater half", w.most(0), 1);
+        // the third PLANK has an END OUT, the fourth is sound; weights that stood there ahead don't count
+        TreePlanks v = Check.planted("b0 9 0;b0 9 3;b0 1 0;b0 9 0;p1 0 9 3 1;p0 1 9 1 3;p0 1 9 3 0;p0 3 9 2 2;c9 1;c9 1;");
+        v.gale(7);
+        due("one finds room", v.most(NONE), 1);
+        due("on the fourth", v.most(0), 3);
+        due("once more", v.most(0), 3);
+        due("the other has none", v.richest(1), -5);
     }
 
     private static void firstOuts() {
@@ -531,6 +549,11 @@ public final class PromisesTest {
         due("loose stays", x.odds(0, 1, 6, 0), 1);
         due("loose stays: lower", x.odds(0, 1, 6, 1), 1);
         due("alike boughs", x.odds(1, 0, 6, 0), 1);
+        TreePlanks y = Check.planted("b0 9 0;b0 9 0;b0 9 3;p0 1 9 1 1;p0 2 9 0 1;p2 1 9 2 3;");
+        due("end 1 of plank 1", y.odds(1, 1, 1, 1), 2);
+        due("end 0 of plank 2: 18 at most behind two, below 20", y.odds(2, 0, 2, 1), 1);
+        due("end 1 of plank 2", y.odds(2, 1, 6, 0), 46655);
+        due("all but six of 6", y.odds(2, 1, 6, 1), 46656);
         x.gale(3);
         due("worn by 9: none", x.odds(0, 0, 1, 0), 0);
         x.gale(1);
@@ -589,6 +612,9 @@ public final class PromisesTest {
         due("w 60", x.hoist(0, 60), NONE);
         due("bough 2", x.hoist(2, 1), BAD);
         due("bough -1", x.hoist(-1, 1), BAD);
+        TreePlanks y = Check.planted("b20 60 0;c5 0;c6 0;c1 0;c1 0;c1 0;");
+        due("a 4th of 20 is 5", y.hoist(0, 1), 2);
+        due("all five of them", y.hoist(0, 9), 31);
     }
 
     private static void rotten() {
@@ -629,6 +655,8 @@ public final class PromisesTest {
         due("which can't be", x.mayBe(), 0);
         due("ask 2", x.ask(2), BAD);
         due("ask -1", x.ask(-1), BAD);
+        TreePlanks one = Check.planted("b0 9 0;b0 9 0;p0 1 7 1 1;");
+        due("ask of the only plank", one.ask(0) * 100 + one.ask(1), 1);
     }
 
     private static void rated(TreePlanks x, int kind, int c, int want, long bodies) {
