@@ -1,6 +1,6 @@
 /** What the project's tests share: it counts and prints answers that are not the ones due. */
 final class Check {
-    /** Numbers that no call takes anywhere; some of them become small ones if they are doubled or cut to 16 or 8 bits. */
+    /** Numbers that no call takes anywhere; doubled, or cut to 16 or 8 bits, some of them would be small ones. */
     private static final int[] WILD = {Integer.MIN_VALUE, Integer.MIN_VALUE + 1, -0x40000000, -65536, -1000000, -256,
         -100, 256, 1000, 65536, 1000000, 0x40000000, Integer.MAX_VALUE - 1, Integer.MAX_VALUE};
 

@@ -325,24 +325,6 @@ public final class EdgesTest {
         bothRefused("both", y::child, new int[] {-1, 3}, new int[] {-1, 0, 2, 3});
     }
 
-    private static void nowCounts() {
-        told.says("4 GALES, 5 how many may be UNDONE.");
-        TreePlanks x = Check.planted(SMALL);
-        due("GALES", x.now(4), 0);
-        due("to be UNDONE", x.now(5), 0);
-        for (int i = 1; i <= 12; i++) {
-            x.gale(1);
-            due("GALES", x.now(4), i);
-            due("to be UNDONE, ten at most", x.now(5), Math.min(i, 10));
-        }
-    }
-
-    private static void nowRefuses() {
-        told.says("BAD.");
-        TreePlanks x = Check.planted(SMALL);
-        refused("what", x::now, -1, 6, NONE);
-    }
-
     private static void now() {
         promise(9);
         told.says("0 whether it HOLDS all, 1 the first PLANK with too much LOAD (NONE),"
@@ -390,6 +372,24 @@ public final class EdgesTest {
         due("too much LOAD", x.now(1), laden);
         due("BEARS too much", x.now(2), bent);
         due("a LOAD and OUT", x.now(3), out);
+    }
+
+    private static void nowCounts() {
+        told.says("4 GALES, 5 how many may be UNDONE.");
+        TreePlanks x = Check.planted(SMALL);
+        due("GALES", x.now(4), 0);
+        due("to be UNDONE", x.now(5), 0);
+        for (int i = 1; i <= 12; i++) {
+            x.gale(1);
+            due("GALES", x.now(4), i);
+            due("to be UNDONE, ten at most", x.now(5), Math.min(i, 10));
+        }
+    }
+
+    private static void nowRefuses() {
+        told.says("BAD.");
+        TreePlanks x = Check.planted(SMALL);
+        refused("what", x::now, -1, 6, NONE);
     }
 
     private static void stands() {

@@ -460,7 +460,8 @@ public final class PromisesTest {
         TreePlanks w = Check.planted("b0 2 0;b0 9 0;p0 1 9 1 1;p1 0 9 1 1;c5 1;");
         due("end 0 has the greater half", w.most(0), 1);
         // the third PLANK has an END OUT, the fourth is sound; weights that stood there ahead don't count
-        TreePlanks v = Check.planted("b0 9 0;b0 9 3;b0 1 0;b0 9 0;p1 0 9 3 1;p0 1 9 1 3;p0 1 9 3 0;p0 3 9 2 2;c9 1;c9 1;");
+        TreePlanks v = Check.planted("b0 9 0;b0 9 3;b0 1 0;b0 9 0;p1 0 9 3 1;p0 1 9 1 3;p0 1 9 3 0;p0 3 9 2 2;"
+                + "c9 1;c9 1;");
         v.gale(7);
         due("one finds room", v.most(NONE), 1);
         due("on the fourth", v.most(0), 3);

@@ -132,7 +132,7 @@ public final class RefusedTest {
     }
 
     private static void numberNotAsTold() {
-        TERMS.says("the first of these: BAD (a number is not as told, or there is no such thing), STATE (as told), FULL");
+        TERMS.says("the first of these: BAD (a number is not as told, or there is no such thing)");
         TreePlanks x = Check.planted("b9 9 0;b9 9 3;c3 5;");
         TERMS.due("a BOUGH that may be, but was not told", x.bough(2, 0), BAD);
         TERMS.due("a PLANK that may be, but was not told", x.plank(0, 0), BAD);

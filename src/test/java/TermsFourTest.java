@@ -245,9 +245,48 @@ public final class TermsFourTest {
         due("IMAGE 0 is gone", x.back(0), STATE);
         due("IMAGE 1 is gone", x.back(1), STATE);
         due("nothing may be UNDONE", x.undo(), STATE);
+        fewerReadAnew();
         x.keep(0);
         Check.typed(x, "b0 0 0;");
         x.tree();
         due("a FAULT reads nothing anew", x.back(0), 0);
+    }
+
+    /** What was found out about a greater tree counts no more. */
+    private static void fewerReadAnew() {
+        TreePlanks x = Check.planted(HIGH);
+        x.gale(9);
+        x.stands(4, 2);
+        askAll(x);
+        Check.typed(x, "b0 9 0;b0 9 3;p0 1 9 1 1;c9 1;").tree();
+        due("MOST", x.most(NONE), 1);
+        due("MOST, the child", x.most(0), 0);
+        due("RICHEST", x.richest(NONE), 1);
+        due("RICHEST, the child", x.richest(0), 0);
+        due("STANDS for", x.holdsFor(9), NONE);
+        due("FIRST OUT", x.firstOut(4, 1), 0);
+        due("BOLTS", x.bolts(4, 1, 0), 3);
+        due("BOLTS that help", x.bolts(4, 1, 1), 3);
+        due("ORDERS", x.orders(-1), 1);
+        due("ORDERS, the first", x.orders(0), 0);
+        due("BARRED", x.barred(), 0);
+        due("HOIST", x.hoist(1, 9), NONE);
+        due("MAY BE", x.mayBe(), 1);
+        due("ASK", x.ask(0), 0);
+        due("ENDS that are OUT", x.count(4), 0);
+        due("a SISTER", x.rate(5, 0), 9);
+    }
+
+    private static void askAll(TreePlanks x) {
+        x.most(NONE);
+        x.richest(NONE);
+        x.holdsFor(9);
+        x.firstOut(9, 0);
+        x.bolts(9, 30, 1);
+        x.odds(2, 0, 6, 0);
+        x.orders(-1);
+        x.orders(0);
+        x.test(2, 20, 0);
+        x.ask(0);
     }
 }

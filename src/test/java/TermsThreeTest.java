@@ -326,6 +326,7 @@ public final class TermsThreeTest {
         TreePlanks mixed = Check.planted("b0 60 0;b0 60 3;b0 60 1;p0 1 9 1 1;p0 2 9 1 1;");
         due("helps where SWAY differs by 1", mixed.bolts(9, 4, 1), 12);
         due("all would be OUT", mixed.bolts(9, 4, 0), 15);
+        due("each of twelve, 35", Check.planted(UNLIKE + "p0 1 9 1 1;".repeat(6)).bolts(5, 7, 1), 4095);
     }
 
     private static void oddsFrom0To6() {
